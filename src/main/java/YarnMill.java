@@ -28,6 +28,8 @@ public final class YarnMill {
     private static final int MOST_NUMBERS = 3;
     private static final int MOST_UNDOS = 8;
     private static final int NONE = -1;
+    // More than any sum of values, any time and any cost.
+    private static final int UNREACHED = 2147483647;
 
     private final Stock stock = new Stock();
     private final Stock beforeScript = new Stock();
@@ -90,7 +92,7 @@ public final class YarnMill {
     // Bales.
 
     public int baleCount() {
-        return stock.bales.count();
+        return stock.bales.ids.size();
     }
 
     public int baleAt(int position) throws NoSuchElementException {
@@ -143,7 +145,7 @@ public final class YarnMill {
     // Orders.
 
     public int orderCount() {
-        return stock.orders.count();
+        return stock.orders.ids.size();
     }
 
     public int orderAt(int position) throws NoSuchElementException {
@@ -692,10 +694,6 @@ public final class YarnMill {
         private final Row values = new Row(MOST_BALES);
         private int nextId;
 
-        int count() {
-            return ids.size();
-        }
-
         int add(int weight, int staple, int price) {
             int id = nextId;
             nextId++;
@@ -709,7 +707,7 @@ public final class YarnMill {
 
         int weightOf(int set) {
             int sum = 0;
-            for (int position = 0; position < count(); position++) {
+            for (int position = 0; position < ids.size(); position++) {
                 if ((set & 1 << position) != 0) {
                     sum += weights.get(position);
                 }
@@ -719,7 +717,7 @@ public final class YarnMill {
 
         void removeSet(int set) {
             // From the last position on, so that the positions still to come stay the same.
-            for (int position = count() - 1; position >= 0; position--) {
+            for (int position = ids.size() - 1; position >= 0; position--) {
                 if ((set & 1 << position) != 0) {
                     removeAt(position);
                 }
@@ -737,7 +735,7 @@ public final class YarnMill {
         /** Puts keys whose ascending order is the descending one of value, then of staple. */
         void putKeys(Row keys) {
             keys.clear();
-            for (int position = 0; position < count(); position++) {
+            for (int position = 0; position < ids.size(); position++) {
                 keys.add(-(values.get(position) * (MOST_STAPLE + 1) + staples.get(position)));
             }
         }
@@ -759,10 +757,6 @@ public final class YarnMill {
         private final Row twists = new Row(MOST_ORDERS);
         private final Row minutes = new Row(MOST_ORDERS);
         private int nextId;
-
-        int count() {
-            return ids.size();
-        }
 
         Refusal refusalOfOpening(int length, int twist) {
             if (!isBetween(length, 1, MOST_LENGTH) || !isBetween(twist, 1, MOST_TWIST)) {
@@ -786,7 +780,7 @@ public final class YarnMill {
             lengths.removeAt(position);
             twists.removeAt(position);
             minutes.removeAt(position);
-            return count();
+            return ids.size();
         }
 
         /** The length after which the yarn of an order breaks. */
@@ -801,7 +795,7 @@ public final class YarnMill {
 
         int countKinds() {
             int kinds = 0;
-            for (int position = 0; position < count(); position++) {
+            for (int position = 0; position < ids.size(); position++) {
                 if (isFirstOfKind(position)) {
                     kinds++;
                 }
@@ -821,7 +815,7 @@ public final class YarnMill {
         /** Puts keys whose ascending order is the descending one of time. */
         void putKeys(Row keys) {
             keys.clear();
-            for (int position = 0; position < count(); position++) {
+            for (int position = 0; position < ids.size(); position++) {
                 keys.add(-minutes.get(position));
             }
         }
@@ -985,7 +979,7 @@ public final class YarnMill {
         int bestSet(Bales bales, int need, int staple) {
             addUpSets(bales);
             int best = 0;
-            for (int set = 1; set < 1 << bales.count(); set++) {
+            for (int set = 1; set < 1 << bales.ids.size(); set++) {
                 boolean isBlend = weights[set] >= need && products[set] >= staple * weights[set];
                 if (isBlend && (best == 0 || isBetter(set, best))) {
                     best = set;
@@ -1000,7 +994,7 @@ public final class YarnMill {
         }
 
         private void addUpSets(Bales bales) {
-            for (int position = 0; position < bales.count(); position++) {
+            for (int position = 0; position < bales.ids.size(); position++) {
                 int weight = bales.weights.get(position);
                 int product = weight * bales.staples.get(position);
                 int value = bales.values.get(position);
@@ -1028,9 +1022,9 @@ public final class YarnMill {
         int valueBySearch(Bales bales, int need, int staple) {
             this.need = need;
             this.staple = staple;
-            cheapest = Integer.MAX_VALUE;
+            cheapest = UNREACHED;
             search(this, bales, 0, 0, 0, 0);
-            return cheapest == Integer.MAX_VALUE ? NONE : cheapest;
+            return cheapest == UNREACHED ? NONE : cheapest;
         }
 
         /** Takes or leaves the bale at a position; what was taken before has the given sums. */
@@ -1042,7 +1036,7 @@ public final class YarnMill {
                 finder.cheapest = value;
                 return;
             }
-            if (position >= bales.count()) {
+            if (position >= bales.ids.size()) {
                 return;
             }
             int more = bales.weights.get(position);
@@ -1062,7 +1056,7 @@ public final class YarnMill {
 
         int shortestBySets(Orders orders, int machines) {
             addUpSets(orders);
-            int all = (1 << orders.count()) - 1;
+            int all = (1 << orders.ids.size()) - 1;
             for (int set = 0; set <= all; set++) {
                 least[set] = sums[set];
             }
@@ -1076,7 +1070,7 @@ public final class YarnMill {
         }
 
         private void addUpSets(Orders orders) {
-            for (int position = 0; position < orders.count(); position++) {
+            for (int position = 0; position < orders.ids.size(); position++) {
                 int minutes = orders.minutes.get(position);
                 int bit = 1 << position;
                 for (int rest = 0; rest < bit; rest++) {
@@ -1101,7 +1095,7 @@ public final class YarnMill {
             for (int machine = 0; machine < machines; machine++) {
                 loads.add(0);
             }
-            shortest = Integer.MAX_VALUE;
+            shortest = UNREACHED;
             search(this, orders, 0, 0);
             return shortest;
         }
@@ -1111,7 +1105,7 @@ public final class YarnMill {
             if (time >= finder.shortest) {
                 return;
             }
-            if (position >= orders.count()) {
+            if (position >= orders.ids.size()) {
                 finder.shortest = time;
                 return;
             }
@@ -1145,7 +1139,7 @@ public final class YarnMill {
         }
 
         private int leastOfTable(int first, int last) {
-            int least = Integer.MAX_VALUE;
+            int least = UNREACHED;
             for (int middle = first; middle < last; middle++) {
                 least = Math.min(least, table[cell(first, middle)] + table[cell(middle + 1, last)]);
             }
@@ -1167,10 +1161,11 @@ public final class YarnMill {
             if (memory[cell(first, last)] != NONE) {
                 return memory[cell(first, last)];
             }
-            int least = Integer.MAX_VALUE;
+            int least = UNREACHED;
             int sum = pieces.get(last);
             for (int middle = first; middle < last; middle++) {
-                least = Math.min(least, divide(memory, pieces, first, middle) + divide(memory, pieces, middle + 1, last));
+                int cost = divide(memory, pieces, first, middle) + divide(memory, pieces, middle + 1, last);
+                least = Math.min(least, cost);
                 sum += pieces.get(middle);
             }
             memory[cell(first, last)] = least + lastSplice(sum, first, last);

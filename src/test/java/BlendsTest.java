@@ -42,7 +42,8 @@ public final class BlendsTest {
     private static void dueNoBlend(YarnMill mill, int need, int staple) {
         String what = " for " + need + " with " + staple;
         CHECK.refused("value" + what, mill, NoSuchElementException.class, () -> mill.blendValue(need, staple));
-        CHECK.refused("search" + what, mill, NoSuchElementException.class, () -> mill.blendValueBySearch(need, staple));
+        CHECK.refused("search" + what, mill, NoSuchElementException.class, 
+                () -> mill.blendValueBySearch(need, staple));
         CHECK.refused("blend" + what, mill, UnsupportedOperationException.class, () -> mill.blend(need, staple));
         if (mill.baleCount() > 0) {
             int bale = mill.baleAt(0);
@@ -71,6 +72,7 @@ public final class BlendsTest {
         YarnMill mill = withBales(new int[] {2, 30, 1}, new int[] {1, 31, 1});
         dueBlend(mill, 3, 30, 3, 0, 1);
         dueNoBlend(mill, 3, 31);
+        dueNoBlend(withBales(new int[] {1, 30, 1}, new int[] {1, 31, 1}), 2, 31);
         YarnMill exact = withBales(new int[] {3, 20, 1}, new int[] {1, 60, 1});
         dueBlend(exact, 4, 30, 4, 0, 1);
         dueNoBlend(exact, 4, 31);
@@ -162,16 +164,17 @@ public final class BlendsTest {
         CHECK.refused("no bale, no blend", mill, NoSuchElementException.class, () -> mill.isInBlend(-1, 9, 30) ? 1 : 0);
         CHECK.refused("range and no blend", mill, IllegalArgumentException.class,
                 () -> mill.isInBlend(0, 501, 30) ? 1 : 0);
-        CHECK.refused("value: range and no blend", mill, IllegalArgumentException.class, () -> mill.blendValue(501, 60));
+        CHECK.refused("value: range and no blend", mill, IllegalArgumentException.class,
+                () -> mill.blendValue(501, 60));
         CHECK.refused("search: range and no blend", mill, IllegalArgumentException.class,
                 () -> mill.blendValueBySearch(501, 60));
         CHECK.refused("blend: range and no blend", mill, IllegalArgumentException.class, () -> mill.blend(6, 61));
     }
 
     private static void findsBlendsOfTenBales() {
-        YarnMill mill = withBales(new int[] {9, 12, 1}, new int[] {8, 14, 2}, new int[] {7, 18, 3}, new int[] {6, 22, 4},
-                new int[] {5, 26, 5}, new int[] {4, 30, 6}, new int[] {3, 40, 7}, new int[] {2, 50, 8},
-                new int[] {1, 58, 9}, new int[] {1, 60, 10});
+        YarnMill mill = withBales(new int[] {9, 12, 1}, new int[] {8, 14, 2}, new int[] {7, 18, 3},
+                new int[] {6, 22, 4}, new int[] {5, 26, 5}, new int[] {4, 30, 6},
+                new int[] {3, 40, 7}, new int[] {2, 50, 8}, new int[] {1, 58, 9}, new int[] {1, 60, 10});
         dueBlend(mill, 46, 10, 175, 0, 1, 2, 3, 4, 5, 6, 7, 8, 9);
         dueBlend(mill, 2, 59, 19, 8, 9);
         dueBlend(mill, 1, 60, 10, 9);

@@ -65,6 +65,7 @@ final class Picture {
             put("weight", mill.weight(bale));
             put("staple", mill.staple(bale));
             put("price", mill.price(bale));
+            put("rank", mill.baleByValue(position));
         }
     }
 
@@ -74,6 +75,8 @@ final class Picture {
             put("order", order);
             put("length", mill.lengthOf(order));
             put("twist", mill.twistOf(order));
+            put("minutes", mill.minutesOf(order));
+            put("rank", mill.orderByTime(position));
         }
     }
 

@@ -108,16 +108,18 @@ public final class ScriptsTest {
     }
 
     private static void tellsErrorPositions() {
-        String[] early = {"", "b", "bal", "bale", "bale ", "bale 1", "bale 1 ", "bale 123 4", "bale 1 2 ", "bl", "blend ",
-            "blend 500 ", "o", "order 1", "c", "cancel ", "m", "machines ", "s", "sp", "spin ", "splic", "splice ", "se",
-            "sell ", "j", "joi", "join;", "join;s", "sell 0;join;"};
+        String[] early = {"", "b", "bal", "bale", "bale ", "bale 1", "bale 1 ", "bale 123 4", "bale 1 2 ", "bl",
+            "blend ", "blend 500 ", "o", "order 1", "c", "cancel ", "m", "machines ", "s", "sp", "spin ", "splic",
+            "splice ", "se", "sell ", "j", "joi", "join;", "join;s", "sell 0;join;"};
         for (String script : early) {
             dueError(script, script.length());
         }
         // The mark | stands before the first character that cannot go on.
         String[] late = {"|x", "| join", "|Join", "|;", "|1", "ba|d", "bl|a", "b|x", "bale|1", "bale |x", "bale | 1",
             "bale 1|x", "bale 1|;", "bale 123|4", "bale 1 |;", "bale 1 2|;", "bale 1 2 |;", "bale 1 2 3| ",
-            "bale 1 2 333|3", "blend 1 2| 3", "bale 1 2 3|join", "blend|;", "order 12 |;",
+            "bale 1 2 333|3", "blend 1 2| 3", "blend 000|0 1", "blend 1 000|0",
+            "order 000|0 1", "order 1 000|0", "cancel 000|0", "spin 000|0", "sell 000|0", "bale 1 2 3|join",
+            "blend|;", "order 12 |;",
             "order |-1", "cancel 1| ", "cancel |-1", "machines 1|2", "machines |x", "machines 3|x",
             "sp|a", "spi|c", "spl|a", "spin 0| ", "splice 000|0", "se|a", "s|x", "join| ",
             "join|0", "join|join", "join;|;", "join;| join", "join;join;|x", "sell 0;sell|0",

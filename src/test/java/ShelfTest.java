@@ -21,7 +21,8 @@ public final class ShelfTest {
 
     private static void breaksTheYarn() {
         int[][] orders = {{1, 1}, {4, 1}, {5, 1}, {40, 1}, {24, 9}, {25, 9}, {40, 9}, {12, 3}, {13, 2}, {5, 2}};
-        String[] shelves = {"1", "4", "4 1", "4 4 4 4 4 4 4 4 4 4", "12 12", "12 12 1", "12 12 12 4", "6 6", "5 5 3", "5"};
+        String[] shelves = {"1", "4", "4 1", "4 4 4 4 4 4 4 4 4 4", "12 12", "12 12 1", "12 12 12 4", "6 6", "5 5 3",
+            "5"};
         for (int index = 0; index < orders.length; index++) {
             String what = "order " + orders[index][0] + " " + orders[index][1];
             YarnMill mill = Mills.withRoving(40);
@@ -149,7 +150,8 @@ public final class ShelfTest {
         CHECK.due("worth of 1", mill.worthOf(1), 50);
         CHECK.due("worth of 2", mill.worthOf(2), 8);
         for (int position : new int[] {3, -1, Integer.MIN_VALUE, Integer.MAX_VALUE}) {
-            CHECK.refused("length " + position, mill, IndexOutOfBoundsException.class, () -> mill.pieceLength(position));
+            CHECK.refused("length " + position, mill, IndexOutOfBoundsException.class,
+                    () -> mill.pieceLength(position));
             CHECK.refused("worth " + position, mill, IndexOutOfBoundsException.class, () -> mill.worthOf(position));
         }
     }
