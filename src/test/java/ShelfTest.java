@@ -160,6 +160,9 @@ public final class ShelfTest {
         CHECK.due("longest of one", Mills.withPieces(0, 1).longestPiece(), 0);
         CHECK.due("lowest of two", Mills.withPieces(0, 4, 9, 8, 9).longestPiece(), 1);
         CHECK.due("last", Mills.withPieces(0, 4, 9, 8, 10).longestPiece(), 3);
+        YarnMill sold = Mills.withPieces(0, 4, 5, 9);
+        sold.sell(2);
+        CHECK.due("longest behind a sale", sold.longestPiece(), 1);
         YarnMill mill = Mills.withPieces(0, 3);
         mill.sell(0);
         CHECK.refused("longest of none", mill, NoSuchElementException.class, mill::longestPiece);
