@@ -1,5 +1,16 @@
+import java.util.NoSuchElementException;
+import java.util.function.Supplier;
+import java.util.function.ToLongFunction;
+
 /** Compares answers with those that are due, counts the wrong ones, and ends the test. */
 final class Check {
+    static final Class<IllegalArgumentException> ARGUMENT = IllegalArgumentException.class;
+    static final Class<IllegalStateException> STATE = IllegalStateException.class;
+    static final Class<UnsupportedOperationException> UNSUPPORTED = UnsupportedOperationException.class;
+    static final Class<NoSuchElementException> ELEMENT = NoSuchElementException.class;
+    static final Class<IndexOutOfBoundsException> INDEX = IndexOutOfBoundsException.class;
+    static final Class<ArithmeticException> ARITHMETIC = ArithmeticException.class;
+
     interface Call {
         long answer();
     }
@@ -37,6 +48,18 @@ final class Check {
         String before = Picture.of(mill);
         throwsJust(what, due, call);
         due(what + " changes nothing", Picture.of(mill), before);
+    }
+
+    /** Like refused; besides, nothing may differ that only further calls show: what can be undone, the next ids. */
+    void refusedWholly(String what, Supplier<YarnMill> maker, Class<? extends RuntimeException> due,
+            ToLongFunction<YarnMill> call) {
+        String without = Picture.whole(maker);
+        String with = Picture.whole(() -> {
+            YarnMill mill = maker.get();
+            throwsJust(what, due, () -> call.applyAsLong(mill));
+            return mill;
+        });
+        due(what + " changes nothing at all", with, without);
     }
 
     void throwsJust(String what, Class<? extends RuntimeException> due, Call call) {

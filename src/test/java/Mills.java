@@ -24,6 +24,40 @@ final class Mills {
         return mill;
     }
 
+    /** A mill with as many bales, each of 1 kilogram for 1 coin. */
+    static YarnMill withSmallBales(int count) {
+        YarnMill mill = new YarnMill();
+        for (int bale = 0; bale < count; bale++) {
+            mill.buyBale(1, 30, 1);
+        }
+        return mill;
+    }
+
+    /** A mill with bales of these weights, staples and prices. */
+    static YarnMill withBales(int[]... bales) {
+        YarnMill mill = new YarnMill();
+        for (int[] bale : bales) {
+            mill.buyBale(bale[0], bale[1], bale[2]);
+        }
+        return mill;
+    }
+
+    /** A mill with orders of these lengths and twists. */
+    static YarnMill withOrders(int[]... orders) {
+        YarnMill mill = new YarnMill();
+        for (int[] order : orders) {
+            mill.addOrder(order[0], order[1]);
+        }
+        return mill;
+    }
+
+    /** Equal pieces for withPieces. */
+    static int[] pieces(int count, int length) {
+        int[] pieces = new int[count];
+        Arrays.fill(pieces, length);
+        return pieces;
+    }
+
     static String shelf(YarnMill mill) {
         StringBuilder shelf = new StringBuilder();
         for (int position = 0; position < mill.pieceCount(); position++) {

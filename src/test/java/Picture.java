@@ -1,4 +1,5 @@
 import java.util.NoSuchElementException;
+import java.util.function.Supplier;
 
 /** All that the calls that change nothing tell of a mill, as a text. */
 final class Picture {
@@ -21,6 +22,21 @@ final class Picture {
         return picture.text.toString();
     }
 
+    /** Also what only further calls show: the script buffer, all that can be undone, the snapshot and the next ids. */
+    static String whole(Supplier<YarnMill> maker) {
+        YarnMill mill = maker.get();
+        StringBuilder whole = new StringBuilder(of(mill));
+        whole.append("typed=").append(orThrown(() -> mill.type(' '))).append(' ');
+        for (int undo = 0; undo < 9; undo++) {
+            whole.append("undo=").append(orThrown(mill::undo)).append(' ').append(of(mill));
+        }
+        whole.append("restore=").append(orThrown(mill::restore)).append(' ').append(of(mill));
+        YarnMill other = maker.get();
+        whole.append("next bale=").append(orThrown(() -> other.buyBale(1, 10, 1)));
+        whole.append(" next order=").append(orThrown(() -> other.addOrder(1, 1)));
+        return whole.toString();
+    }
+
     static String output(YarnMill mill) {
         StringBuilder output = new StringBuilder();
         try {
@@ -38,6 +54,14 @@ final class Picture {
             return Long.toString(call.answer());
         } catch (NoSuchElementException none) {
             return "none";
+        }
+    }
+
+    private static String orThrown(Check.Call call) {
+        try {
+            return Long.toString(call.answer());
+        } catch (RuntimeException thrown) {
+            return thrown.getClass().getName();
         }
     }
 
