@@ -618,7 +618,7 @@ public final class YarnMill {
         }
 
         void removeAt(int position) {
-            if (!has(position)) {
+            if (position < 0 || position >= size) {
                 return;
             }
             for (int behind = position + 1; behind < size; behind++) {

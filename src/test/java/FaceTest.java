@@ -76,6 +76,7 @@ public final class FaceTest {
         hasTheDocumentsMethods();
         hasTheDocumentsConstructor();
         showsNothingElse();
+        keepsTheLimits();
         CHECK.end();
     }
 
@@ -137,6 +138,21 @@ public final class FaceTest {
             for (Method method : inside.getDeclaredMethods()) {
                 boolean isPrivate = Modifier.isPrivate(method.getModifiers());
                 CHECK.due(method + " has its own name", isPrivate && publicNames.contains(method.getName()), false);
+            }
+        }
+    }
+
+    // LANGUAGE.md, rule 11: seven parameters, some twelve classes, some twenty fields beside the constants.
+    private static void keepsTheLimits() {
+        List<Class<?>> classes = new ArrayList<>(Arrays.asList(YarnMill.class.getDeclaredClasses()));
+        classes.add(YarnMill.class);
+        CHECK.due(classes.size() + " classes are few", classes.size() <= 12, true);
+        for (Class<?> one : classes) {
+            long fields = Arrays.stream(one.getDeclaredFields())
+                    .filter(field -> !Modifier.isStatic(field.getModifiers())).count();
+            CHECK.due(fields + " fields are few in " + one, fields <= 20, true);
+            for (Method method : one.getDeclaredMethods()) {
+                CHECK.due(method + " has few parameters", method.getParameterCount() <= 7, true);
             }
         }
     }
